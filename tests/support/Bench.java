@@ -92,6 +92,19 @@ final class Bench {
         return x.check(positions.length);
     }
 
+    /** The FRAMES of a told DRUM as letters and gaps. */
+    String row(int k) {
+        StringBuilder s = new StringBuilder();
+        for (int i = 0; i < x.drumIs(k, 0); i++) {
+            s.append("abcdefghijklmnop-".charAt(x.frameIs(k, i, 0)));
+        }
+        return s.toString();
+    }
+
+    static void due(String call, String got, String want) {
+        due(call + " (" + got + " for " + want + ")", got.equals(want), true);
+    }
+
     /** All that can be asked of the state without the tape, as one text. */
     String state() {
         StringBuilder s = new StringBuilder();
@@ -101,10 +114,11 @@ final class Bench {
             }
         }
         for (int k = 0; k < 8; k++) {
-            for (int what = 0; what <= 7; what++) {
+            int frames = x.drumIs(k, 0);
+            for (int what = 1; what <= 7 && frames > 0; what++) {
                 s.append(x.drumIs(k, what)).append(' ');
             }
-            for (int i = 0; i < 16; i++) {
+            for (int i = 0; i < frames; i++) {
                 s.append(x.frameIs(k, i, 0)).append('/').append(x.frameIs(k, i, 1)).append(' ');
             }
         }

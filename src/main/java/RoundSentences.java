@@ -1829,7 +1829,8 @@ public final class RoundSentences {
                 return 0;
             }
             int marks = (n + m - 1) / m;
-            // The highest mark can't be lower, for the m FRAMES up to FRAME 0 hold it or FRAME 0's.
+            // The m highest FRAMES hold a mark, so the highest mark is no lower than this; each one
+            // below is as low as the one above lets it, with room for those still to come.
             int at = n - m;
             int bits = 1 << at;
             for (int below = marks - 2; below >= 0; below--) {
