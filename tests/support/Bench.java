@@ -2,15 +2,31 @@
 final class Bench {
     private static int asked = 0;
     private static int wrong = 0;
+    private static String sentence = "";
 
     final RoundSentences x = new RoundSentences();
+
+    /** The document's words to which the answers asked for next are held; told with a wrong one. */
+    static void says(String words) {
+        sentence = words;
+    }
 
     static void due(String call, long got, long want) {
         asked++;
         if (got != want) {
             wrong++;
-            System.out.println(call + " answered " + got + ", due is " + want);
+            System.out.println(call + " answered " + got + ", due is " + want
+                    + (sentence.isEmpty() ? "" : " (" + sentence + ")"));
         }
+    }
+
+    /** One object with these DRUMS, from 0 on. */
+    static Bench of(String... drums) {
+        Bench b = new Bench();
+        for (int k = 0; k < drums.length; k++) {
+            due("drum " + k + " " + drums[k], b.drum(k, drums[k]) > 0, true);
+        }
+        return b;
     }
 
     static void due(String call, boolean got, boolean want) {
@@ -103,6 +119,13 @@ final class Bench {
 
     static void due(String call, String got, String want) {
         due(call + " (" + got + " for " + want + ")", got.equals(want), true);
+    }
+
+    /** What is asked of a told DRUM: FRAMES, POSITION, TURNS LEFT, WAY GONE, PACE, PARDONED, shown, gaps. */
+    void dueDrumIs(int k, int... want) {
+        for (int what = 0; what < want.length; what++) {
+            due("drumIs " + k + " " + what, x.drumIs(k, what), want[what]);
+        }
     }
 
     /** All that can be asked of the state without the tape, as one text. */
