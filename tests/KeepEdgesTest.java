@@ -121,7 +121,8 @@ public final class KeepEdgesTest {
     }
 
     private static void drumIs() {
-        Bench.says("what 0 FRAMES, 1 POSITION, 2 TURNS LEFT, 3 WAY GONE, 4 PACE, 5 PARDONED (1, 0), 6 what shows at the slit (a GAP: 16), 7 how many FRAMES show as GAPS");
+        Bench.says("what 0 FRAMES, 1 POSITION, 2 TURNS LEFT, 3 WAY GONE, 4 PACE, 5 PARDONED (1, 0), 6 what shows at "
+                + "the slit (a GAP: 16), 7 how many FRAMES show as GAPS");
         Bench b = Bench.of("a");
         b.dueDrumIs(0, 1, 0, 0, 0, 0, 0, 0, 0);
         b.drum(7, "-bcdefghijklmnop");
@@ -306,7 +307,8 @@ public final class KeepEdgesTest {
     }
 
     private static void check() {
-        Bench.says("CHECK by the first n bytes of the tape (0 to 8; empty then; of DRUMS that are not told 255): NONE: right");
+        Bench.says("CHECK by the first n bytes of the tape (0 to 8; empty then; of DRUMS that are not told 255): "
+                + "NONE: right");
         int[] right = {2, 255, 0, 255, 255, 255, 255, 15};
         for (int n = 0; n <= 8; n++) {
             Bench b = positions();
@@ -360,7 +362,8 @@ public final class KeepEdgesTest {
     }
 
     private static void countEach() {
-        Bench.says("0 THE TICK, 1 told DRUMS (bits), 2 RUNNING ones (bits), 3 PARDONED ones (bits), 4 TURNS LEFT of all, 5 RULES, 6 bytes of the tape, 7 X");
+        Bench.says("0 THE TICK, 1 told DRUMS (bits), 2 RUNNING ones (bits), 3 PARDONED ones (bits), 4 TURNS LEFT of "
+                + "all, 5 RULES, 6 bytes of the tape, 7 X");
         Bench b = Bench.of("a", "a", "a", "a", "a", "a", "a", "a");
         b.orders("0+999;1+999;2+999;3+999;4+999;5+999;6+999;7+999");
         Bench.due("told", b.x.count(1), 255);

@@ -151,7 +151,8 @@ public final class LawEdgesTest {
     }
 
     private static void partsAndTests() {
-        Bench.says("C: PARTS with a | between two, one of which must hold; a PART: TESTS with an & between two, all of which must");
+        Bench.says("C: PARTS with a | between two, one of which must hold; a PART: TESTS with an & between two, all "
+                + "of which must");
         for (int bits = 0; bits < 16; bits++) {
             boolean[] t = new boolean[4];
             String[] s = new String[4];
@@ -170,7 +171,7 @@ public final class LawEdgesTest {
     }
 
     private static void comparing() {
-        Bench.says("or E, one of < > =, and E");
+        Bench.says("a TEST: !TEST, (C), or E, one of < > =, and E");
         int[][] pairs = {{0, 0}, {0, 1}, {1, 0}, {99999, 99999}, {99998, 99999}, {99999, 99998}};
         for (int[] p : pairs) {
             dueHolds(p[0] + "<" + p[1], p[0] < p[1]);

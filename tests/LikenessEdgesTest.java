@@ -79,6 +79,9 @@ public final class LikenessEdgesTest {
     }
 
     private static void sameOfAsMany() {
+        Bench.says("SAME, TURNED (true) of two told DRUMS (any); -2: they are not; NONE: no such ones.");
+        dueSame("ab", "ac", false, -2);
+        dueSame("ab", "ac", true, -2);
         Bench.says("SAME: two DRUMS of as many FRAMES");
         dueSame("a", "aa", false, -2);
         dueSame("aa", "a", false, -2);
@@ -166,7 +169,8 @@ public final class LikenessEdgesTest {
     }
 
     private static void painted() {
-        Bench.says("so that a DRUM is as it was when turned by d (1 to FRAMES, a divisor of them) FRAMES");
+        Bench.says("PAINTED: the fewest FRAMES to be painted over so that a DRUM is as it was when turned by d (1 to "
+                + "FRAMES, a divisor of them) FRAMES");
         duePainted("a", 1, 0);
         duePainted("ab", 1, 1);
         duePainted("ab", 2, 0);
@@ -197,7 +201,8 @@ public final class LikenessEdgesTest {
     }
 
     private static void mirror() {
-        Bench.says("MIRROR: the fewest so that for some beginning FRAMES from there on (round) are as those from the one ahead of it on back.");
+        Bench.says("MIRROR: the fewest so that for some beginning FRAMES from there on (round) are as those from the "
+                + "one ahead of it on back.");
         dueStory("a", 2, 0);
         dueStory("-", 2, 0);
         dueStory("aa", 2, 0);
@@ -205,6 +210,8 @@ public final class LikenessEdgesTest {
         dueStory("aba", 2, 0);
         dueStory("abc", 2, 1);
         dueStory("abba", 2, 0);
+        dueStory("aabc", 2, 1);
+        dueStory("bcaa", 2, 1);
         dueStory("baab", 2, 0);
         dueStory("aabb", 2, 0);
         // read alike both ways from its first FRAME, but not from between two
@@ -276,7 +283,7 @@ public final class LikenessEdgesTest {
     }
 
     private static void commonOfFewer() {
-        Bench.says("round; no more than the FRAMES of the one that has fewer");
+        Bench.says("round; no more than the FRAMES of the one that has fewer) that both have");
         dueCommon("a", "aaaa", 1);
         dueCommon("aaa", "aaaaaaaaaaaaaaaa", 3);
         dueCommon("ab", "abab", 2);
@@ -327,7 +334,8 @@ public final class LikenessEdgesTest {
     }
 
     private static void forward() {
-        Bench.says("by how much it goes on, if less than 8 forward, more than 8 back (16 less it), 8 neither: all forward less all back");
+        Bench.says("by how much it goes on, if less than 8 forward, more than 8 back (16 less it), 8 neither: all "
+                + "forward less all back");
         dueStory("a", 3, 0);
         dueStory("ab", 3, 0);
         // a to h is 7 on, h to p is 8, p to a is 1 on
@@ -348,7 +356,8 @@ public final class LikenessEdgesTest {
     }
 
     private static void forwardGapsAside() {
-        Bench.says("from FRAME to the next one (round; GAPS aside: those with one left out)");
+        Bench.says("FORWARD: PICTURES as hours 0 to 15 of a dial: from FRAME to the next one (round; GAPS aside: "
+                + "those with one left out)");
         dueStory("-", 3, 0);
         dueStory("a-", 3, 0);
         dueStory("-a", 3, 0);

@@ -36,7 +36,8 @@ public final class SightEdgesTest {
     }
 
     private static void bothNow() {
-        Bench.says("two DRUMS from where they are, so many FRAMES a TICK each (0 to 15): the first TICK (0 now)");
+        Bench.says("BOTH: two DRUMS from where they are, so many FRAMES a TICK each (0 to 15): the first TICK (0 "
+                + "now) at which the one shows a PICTURE and the other one another one");
         Bench b = Bench.of("abc", "ab-d", SIXTEEN, "abcdefghijklmno");
         Bench.due("now", b.both(0, 1, 0, 0, 0, 0), 0);
         Bench.due("now, not later", b.both(0, 1, 15, 15, 0, 0), 0);
@@ -92,6 +93,8 @@ public final class SightEdgesTest {
             Bench.due("no such drum: " + k, b.x.both(k, k), -1);
         }
         Bench.due("the tape stays", b.x.count(6), 20);
+        Bench.says("BOTH of two told DRUMS by the first 4 bytes of the tape (paces, PICTURES to be shown, 0 to 16; "
+                + "empty then)");
         Bench.due("the first four of it", b.x.both(0, 7), 0);
         Bench.due("the rest is gone, too", b.x.count(6), 0);
         // also if what is told there would be too much
@@ -108,7 +111,8 @@ public final class SightEdgesTest {
     }
 
     private static void paced() {
-        Bench.says("PACED: the least pace (0 to FRAMES less 1) by which a word of 1 to 16 PICTURES is seen TICK by TICK from some FRAME on");
+        Bench.says("PACED: the least pace (0 to FRAMES less 1) by which a word of 1 to 16 PICTURES is seen TICK by "
+                + "TICK from some FRAME on");
         duePaced("a", 0, 0, 0);
         duePaced("a", 0, 0, 0, 0, 0, 0, 0, 0, 0, 0, 0, 0, 0, 0, 0, 0, 0, 0);
         duePaced("ab", 1, 0, 0, 1);
@@ -200,7 +204,8 @@ public final class SightEdgesTest {
     }
 
     private static void necklaces() {
-        Bench.says("NECKLACES: how many unlike DRUMS of n (1 to 12) FRAMES there can be with k (1 to 16) PICTURES, if where one begins is no matter; if which way it is read is none, either.");
+        Bench.says("NECKLACES: how many unlike DRUMS of n (1 to 12) FRAMES there can be with k (1 to 16) PICTURES, "
+                + "if where one begins is no matter; if which way it is read is none, either.");
         Bench b = new Bench();
         for (int k = 1; k <= 16; k++) {
             Bench.due("of one frame", b.x.necklaces(1, k, false), k);
@@ -227,7 +232,8 @@ public final class SightEdgesTest {
     }
 
     private static void necklacesRefused() {
-        Bench.says("NECKLACES of n (1 to 12) FRAMES with k (1 to 16) PICTURES, read one way or any (true); NONE: no such ones.");
+        Bench.says("NECKLACES of n (1 to 12) FRAMES with k (1 to 16) PICTURES, read one way or any (true); NONE: no "
+                + "such ones.");
         Bench b = new Bench();
         for (boolean any : new boolean[] {false, true}) {
             for (int n : new int[] {0, -1, 13, Integer.MIN_VALUE, Integer.MAX_VALUE}) {
@@ -242,7 +248,8 @@ public final class SightEdgesTest {
     }
 
     private static void crowdBeyond() {
-        Bench.says("CROWD: eyes at slits (bit i: FRAME i on from that at the slit, round; beyond FRAMES none): how many unlike PICTURES (no GAPS) they see now");
+        Bench.says("CROWD: eyes at slits (bit i: FRAME i on from that at the slit, round; beyond FRAMES none): how "
+                + "many unlike PICTURES (no GAPS) they see now");
         Bench b = Bench.of("aab-c", SIXTEEN, "abcdefghijklmno", "-");
         Bench.due("no eyes", b.x.crowd(0, 0, 0), 0);
         Bench.due("the first", b.x.crowd(0, 1, 0), 1);
@@ -282,7 +289,8 @@ public final class SightEdgesTest {
     }
 
     private static void crowdRefused() {
-        Bench.says("CROWD of a told DRUM by eyes (bits, 0 to 65535)");
+        Bench.says("CROWD of a told DRUM by eyes (bits, 0 to 65535), what 0 how many now, 1 the POSITION, 2 how many "
+                + "then; NONE: no such ones.");
         Bench b = Bench.of("ab");
         for (int what = 0; what <= 2; what++) {
             for (int eyes : new int[] {-1, 65536, 65537, Integer.MIN_VALUE, Integer.MAX_VALUE}) {
@@ -354,7 +362,8 @@ public final class SightEdgesTest {
     }
 
     private static void unseen() {
-        Bench.says("UNSEEN: the least length of a word of a DRUM's own PICTURES (no GAPS) that is nowhere round it (to 16).");
+        Bench.says("UNSEEN: the least length of a word of a DRUM's own PICTURES (no GAPS) that is nowhere round it "
+                + "(to 16).");
         dueUnseen("a-", 2);
         dueUnseen("a-a", 3);
         dueUnseen("aaaaaaaaaaaaaa--", 15);
@@ -364,6 +373,10 @@ public final class SightEdgesTest {
         dueUnseen("aabb", 3);
         dueUnseen("aabb-", 2);
         dueUnseen("aab-bba", 3);
+        // a word goes on from its first FRAME, not back
+        dueUnseen("a-aa-", 3);
+        dueUnseen("aaba-a", 2);
+        dueUnseen("aabb-a", 2);
         dueUnseen("aaababbb", 4);
         dueUnseen("aaaabaabbababbbb", 5);
         dueUnseen("aabaccbbc", 3);
@@ -430,6 +443,9 @@ public final class SightEdgesTest {
         Bench.due("three of four", leaving(5, 1, 5, 1, 5, 1, 5, 1), 3);
         Bench.due("the short ones first", leaving(5, 3, 3, 0, 4, 0, 5, 0, 6, 0, 7, 0, 2, 0), 7);
         Bench.due("those who must first", leaving(10, 2, 9, 1, 8, 0, 9, 0), 4);
+        Bench.due("whose last tick comes first", leaving(5, 0, 6, 1), 2);
+        Bench.due("whose last tick comes first", leaving(6, 1, 5, 0), 2);
+        Bench.due("whose last tick comes first", leaving(5, 0, 6, 1, 7, 2), 3);
         // who could leave first should not
         Bench.due("the long one waits", leaving(50, 50, 0, 0), 2);
         Bench.due("at the very end", leaving(255, 50, 255, 49, 255, 0), 3);
@@ -465,7 +481,8 @@ public final class SightEdgesTest {
     }
 
     private static void marked() {
-        Bench.says("so that in each row of m (1 to 16) side by side (round) at least one is marked: the fewest; the least bits");
+        Bench.says("MARKED: a DRUM's FRAMES (bits) so that in each row of m (1 to 16) side by side (round) at least "
+                + "one is marked: the fewest; the least bits");
         for (int frames = 1; frames <= 16; frames++) {
             Bench b = Bench.of(SIXTEEN.substring(0, frames));
             for (int m = 1; m <= frames; m++) {
@@ -496,7 +513,8 @@ public final class SightEdgesTest {
     }
 
     private static void markedRefused() {
-        Bench.says("MARKED of a told DRUM, m (1 to 16, no more than its FRAMES), what 0 how many, 1 which (bits); NONE: no such ones.");
+        Bench.says("MARKED of a told DRUM, m (1 to 16, no more than its FRAMES), what 0 how many, 1 which (bits); "
+                + "NONE: no such ones.");
         for (int frames = 1; frames <= 16; frames++) {
             Bench b = Bench.of(SIXTEEN.substring(0, frames));
             Bench.due("as many as frames", b.x.marked(0, frames, 0), 1);

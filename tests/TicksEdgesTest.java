@@ -135,7 +135,8 @@ public final class TicksEdgesTest {
     }
 
     private static void wholeTurns() {
-        Bench.says("PACE is v, WAY GONE v more; each time WAY GONE is FRAMES or more, it is less by FRAMES and TURNS LEFT are one less");
+        Bench.says("PACE is v, WAY GONE v more; each time WAY GONE is FRAMES or more, it is less by FRAMES and TURNS "
+                + "LEFT are one less");
         for (int frames = 1; frames <= 16; frames++) {
             for (int v = 0; v <= 15; v++) {
                 Bench b = Bench.of("abcdefghijklmnop".substring(0, frames));
@@ -344,6 +345,8 @@ public final class TicksEdgesTest {
             Bench.due("tried -1 " + t[0], b.x.tried(-1, t[0]), -1);
             Bench.due("tried 241 " + t[0], b.x.tried(241, t[0]), -1);
         }
+        Bench.says("what 0 RUNNING, 1 PARDONED ones then (bits each), 2 FRAMES gone in all, 10 + k POSITION, 20 + k "
+                + "TURNS LEFT, 30 + k how many FRAMES show as GAPS of told DRUM k then; NONE: no such ones.");
         for (int what = -3; what <= 120; what++) {
             boolean told = what % 10 == 0 || what % 10 == 3 || what % 10 == 7;
             boolean is = what >= 0 && what <= 2 || what >= 10 && what < 40 && told;
@@ -394,7 +397,8 @@ public final class TicksEdgesTest {
     }
 
     private static void done() {
-        Bench.says("DONE: a told DRUM in n TICKS (1 to 240; 0: it is not RUNNING); -2: not in these; NONE: no such ones.");
+        Bench.says("DONE: a told DRUM in n TICKS (1 to 240; 0: it is not RUNNING); -2: not in these; NONE: no such "
+                + "ones.");
         Bench b = Bench.of("ab", "ab", "a", "abcdefghijklmnop");
         b.orders("0+1;1+9;1!;3+16");
         b.law("v1(1=1)");
@@ -467,7 +471,8 @@ public final class TicksEdgesTest {
     }
 
     private static void oftenOfThoseThatGoBy() {
-        Bench.says("shows at a DRUM's slit (of those that go by)");
+        Bench.says("OFTEN: at the ends of how many of n TICKS a PICTURE (a GAP: 16) shows at a DRUM's slit (of those "
+                + "that go by).");
         Bench b = late(2);
         Bench.due("two go by", b.x.often(1, 2, 240), 2);
         Bench.due("two go by", b.x.often(1, 2, 2), 2);
