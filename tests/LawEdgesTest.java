@@ -412,6 +412,14 @@ public final class LawEdgesTest {
         Bench b = runner();
         b.law("v6/t(1=1)");
         Bench.due("0, 6, 3", b.x.tried(3, 2), 9);
+        // nor does it leave anything behind, however often
+        b.orders("0+990");
+        b.law("v9+1/0(1=2|1=1);v9(1=1)");
+        Bench.due("goes in 240", b.x.tried(240, 2), 0);
+        b.law("v9(2+1/0=1);a1+1/0(1=1);x(3+1%0=1);l(4=1/0);v3(1=2|1+1=2&k=0)");
+        Bench.due("goes in 240", b.x.tried(240, 2), 720);
+        Bench.due("where", b.x.tried(240, 10), 0);
+        Bench.due("running", b.x.tried(240, 0), 1);
     }
 
     private static void asMuchAsMatters() {
